@@ -202,7 +202,9 @@ public final class KettleTest {
     private static void testMeanTemperature() {
         TeaHouse house = new TeaHouse();
         Expect.refused("no mean without kettles", house, ArithmeticException.class, house::meanTemperature);
-        Words.run(house, "kettle 4;kettle 4;kettle 4");
+        house.addKettle(4);
+        Expect.same("the mean of one kettle", house.meanTemperature(), 20.0);
+        Words.run(house, "kettle 4;kettle 4");
         Expect.same("the mean of cold kettles", house.meanTemperature(), 20.0);
         house.fill(1, 1);
         house.setBurner(1, 1);

@@ -8,6 +8,7 @@ public final class MinuteTest {
         testEmptyKettle();
         testBoiling();
         testBoilsNoMoreThanItHas();
+        testBoilsTheLastEighth();
         testWhistles();
         testTurningTheBurnerDoesNotWhistle();
         testAttendant();
@@ -117,6 +118,16 @@ public final class MinuteTest {
         Expect.yes("balanced", house.isBalanced());
     }
 
+    private static void testBoilsTheLastEighth() {
+        TeaHouse house = houseWith(1, 1);
+        house.pass(80);
+        Expect.same("an eighth is left", house.volume(0), 0.125);
+        house.pass(1);
+        Expect.yes("it still boils", house.isBoiling(0));
+        Expect.same("nothing is left", house.volume(0), 0.0);
+        Expect.same("all is steam", house.steam(), 0.25);
+    }
+
     private static void testWhistles() {
         TeaHouse house = new TeaHouse();
         Words.run(house, "kettle 16;kettle 16;fill 0 16;fill 1 16");
@@ -172,6 +183,9 @@ public final class MinuteTest {
         house.setBurner(1, 5);
         house.pass(12);
         Expect.same("one of two", house.lostShare(), 0.5f);
+        house.undo();
+        Expect.same("none lost before", house.whistlesLost(), 0);
+        house.pass(12);
         house.setAttendant(true);
         Words.run(house, "burner 1 0;minutes 1;burner 1 1;minutes 1");
         Expect.same("one of three", house.lostShare(), 1.0f / 3.0f);
