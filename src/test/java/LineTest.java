@@ -47,19 +47,17 @@ public final class LineTest {
 
     private static void testLine() {
         TeaHouse house = new TeaHouse();
-        Expect.refused("the line is empty at first", house, IndexOutOfBoundsException.class,
-                () -> house.lineChar(0));
+        Expect.thrown("the line is empty at first", IndexOutOfBoundsException.class, () -> house.lineChar(0));
         house.order(3, 2, 90, 7);
         Expect.same("the length", house.formatOrder(0), 13);
         Expect.same("the first character", house.lineChar(0), '#');
         Expect.same("the last character", house.lineChar(12), '7');
         for (int index : new int[] {-1, 13, 14, Integer.MIN_VALUE, Integer.MAX_VALUE}) {
-            Expect.refused("lineChar(" + index + ")", house, IndexOutOfBoundsException.class,
-                    () -> house.lineChar(index));
+            Expect.thrown("lineChar(" + index + ")", IndexOutOfBoundsException.class, () -> house.lineChar(index));
         }
         house.cancel(0);
         Expect.same("the line stays", Words.line(house), "#0 t3 2x90 p7");
-        Expect.refused("no such kettle", house, IndexOutOfBoundsException.class, () -> house.formatKettle(0));
+        Expect.thrown("no such kettle", IndexOutOfBoundsException.class, () -> house.formatKettle(0));
         Expect.same("formatLedger replaces it", house.formatLedger(), 0);
         Expect.same("the line is empty", Words.line(house), "");
     }

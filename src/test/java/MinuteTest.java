@@ -175,7 +175,7 @@ public final class MinuteTest {
 
     private static void testLostShare() {
         TeaHouse house = new TeaHouse();
-        Expect.refused("no whistles", house, ArithmeticException.class, house::lostShare);
+        Expect.thrown("no whistles", ArithmeticException.class, house::lostShare);
         Words.run(house, "kettle 16;kettle 16;fill 0 16;fill 1 16");
         Words.run(house, "burner 0 5;minutes 12");
         Expect.same("none lost", house.lostShare(), 0.0f);
@@ -196,8 +196,7 @@ public final class MinuteTest {
     private static void testPassRefused() {
         TeaHouse house = houseWith(16, 5);
         for (int minutes : new int[] {0, -1, 121, Integer.MIN_VALUE, Integer.MAX_VALUE}) {
-            Expect.refused("pass(" + minutes + ")", house, IllegalArgumentException.class,
-                    () -> house.pass(minutes));
+            Expect.thrown("pass(" + minutes + ")", IllegalArgumentException.class, () -> house.pass(minutes));
         }
         Expect.same("the longest pass", house.pass(120), 1);
         Expect.same("all has boiled away", house.steam(), 4.0);
@@ -230,14 +229,14 @@ public final class MinuteTest {
         Class<NoSuchElementException> type = NoSuchElementException.class;
         for (int kettle = 0; kettle < 2; kettle++) {
             int which = kettle;
-            Expect.refused("never, by division", house, type, () -> house.minutesUntilBoiling(which));
-            Expect.refused("never, by minutes", house, type, () -> house.minutesUntilBoilingByMinutes(which));
+            Expect.thrown("never, by division", type, () -> house.minutesUntilBoiling(which));
+            Expect.thrown("never, by minutes", type, () -> house.minutesUntilBoilingByMinutes(which));
         }
         Expect.yes("balanced", house.isBalanced());
         Words.run(house, "burner 0 5;minutes 12");
         Expect.same("boiled away", house.volume(0), 0.0);
         Expect.yes("it boiled in the last minute", house.isBoiling(0));
-        Expect.refused("never again, by division", house, type, () -> house.minutesUntilBoiling(0));
-        Expect.refused("never again, by minutes", house, type, () -> house.minutesUntilBoilingByMinutes(0));
+        Expect.thrown("never again, by division", type, () -> house.minutesUntilBoiling(0));
+        Expect.thrown("never again, by minutes", type, () -> house.minutesUntilBoilingByMinutes(0));
     }
 }

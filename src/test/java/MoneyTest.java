@@ -56,11 +56,10 @@ public final class MoneyTest {
     private static void testSellSteamRefused() {
         TeaHouse house = steamHouse();
         for (int eighths : new int[] {0, -1, 81, Integer.MIN_VALUE, Integer.MAX_VALUE}) {
-            Expect.refused("sellSteam(" + eighths + ")", house, IllegalArgumentException.class,
-                    () -> house.sellSteam(eighths));
+            Expect.thrown("sellSteam(" + eighths + ")", IllegalArgumentException.class, () -> house.sellSteam(eighths));
         }
-        Expect.refused("an eighth too much", house, IllegalStateException.class, () -> house.sellSteam(33));
-        Expect.refused("the most that can be sold", house, IllegalStateException.class, () -> house.sellSteam(80));
+        Expect.thrown("an eighth too much", IllegalStateException.class, () -> house.sellSteam(33));
+        Expect.thrown("the most that can be sold", IllegalStateException.class, () -> house.sellSteam(80));
         for (int i = 0; i < 2; i++) {
             house.fill(0, 16);
             house.pass(20);
@@ -84,9 +83,8 @@ public final class MoneyTest {
     private static void testPricesRefused() {
         TeaHouse house = new TeaHouse();
         for (int price : new int[] {0, -1, 81, Integer.MIN_VALUE, Integer.MAX_VALUE}) {
-            Expect.refused("setCupPrice(" + price + ")", house, IllegalArgumentException.class,
-                    () -> house.setCupPrice(price));
-            Expect.refused("setSteamPrice(" + price + ")", house, IllegalArgumentException.class,
+            Expect.thrown("setCupPrice(" + price + ")", IllegalArgumentException.class, () -> house.setCupPrice(price));
+            Expect.thrown("setSteamPrice(" + price + ")", IllegalArgumentException.class,
                     () -> house.setSteamPrice(price));
         }
     }
@@ -102,7 +100,7 @@ public final class MoneyTest {
         Expect.same("nightIncome(0)", house.nightIncome(0), 1.25);
         Expect.same("nightIncome(1)", house.nightIncome(1), 0.0);
         for (int night : new int[] {-1, 2, 13, 14, Integer.MIN_VALUE, Integer.MAX_VALUE}) {
-            Expect.refused("nightIncome(" + night + ")", house, IndexOutOfBoundsException.class,
+            Expect.thrown("nightIncome(" + night + ")", IndexOutOfBoundsException.class,
                     () -> house.nightIncome(night));
         }
         Expect.same("the steam stays", house.steam(), 3.125);
@@ -118,7 +116,7 @@ public final class MoneyTest {
         Expect.same("nightCount", house.nightCount(), 14);
         Expect.same("the last night", house.nightIncome(13), 0.5);
         house.sellSteam(1);
-        Expect.refused("a fifteenth night", house, IllegalStateException.class, house::closeNight);
+        Expect.thrown("a fifteenth night", IllegalStateException.class, house::closeNight);
         Expect.same("the income stays", house.income(), 0.25);
         Expect.same("all nights", house.greatestIncome(14), 6.75);
         Expect.same("all nights by sums", house.greatestIncomeBySums(14), 6.75);
@@ -133,8 +131,7 @@ public final class MoneyTest {
             Expect.same("nightByIncome(" + rank + ")", house.nightByIncome(rank), due[rank]);
         }
         for (int rank : new int[] {-1, 7, 14, Integer.MIN_VALUE, Integer.MAX_VALUE}) {
-            Expect.refused("nightByIncome(" + rank + ")", house, NoSuchElementException.class,
-                    () -> house.nightByIncome(rank));
+            Expect.thrown("nightByIncome(" + rank + ")", NoSuchElementException.class, () -> house.nightByIncome(rank));
         }
         Expect.same("the ledger does not change", Words.ledger(house), "6 14 0 14 2 14 6");
         Expect.thrown("no nights", NoSuchElementException.class, () -> new TeaHouse().nightByIncome(0));
@@ -159,15 +156,15 @@ public final class MoneyTest {
     private static void testGreatestIncomeRefused() {
         for (TeaHouse house : new TeaHouse[] {new TeaHouse(), houseWithNights(1, 2)}) {
             for (int nights : new int[] {0, -1, 15, Integer.MIN_VALUE, Integer.MAX_VALUE}) {
-                Expect.refused("greatestIncome(" + nights + ")", house, IllegalArgumentException.class,
+                Expect.thrown("greatestIncome(" + nights + ")", IllegalArgumentException.class,
                         () -> house.greatestIncome(nights));
-                Expect.refused("greatestIncomeBySums(" + nights + ")", house, IllegalArgumentException.class,
+                Expect.thrown("greatestIncomeBySums(" + nights + ")", IllegalArgumentException.class,
                         () -> house.greatestIncomeBySums(nights));
             }
             for (int nights : new int[] {house.nightCount() + 1, 14}) {
-                Expect.refused("greatestIncome(" + nights + ")", house, NoSuchElementException.class,
+                Expect.thrown("greatestIncome(" + nights + ")", NoSuchElementException.class,
                         () -> house.greatestIncome(nights));
-                Expect.refused("greatestIncomeBySums(" + nights + ")", house, NoSuchElementException.class,
+                Expect.thrown("greatestIncomeBySums(" + nights + ")", NoSuchElementException.class,
                         () -> house.greatestIncomeBySums(nights));
             }
         }

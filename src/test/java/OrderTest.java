@@ -48,20 +48,19 @@ public final class OrderTest {
             Class<IllegalArgumentException> type = IllegalArgumentException.class;
             String when = " with " + i + " waiting";
             for (int table : new int[] {-1, 10, Integer.MAX_VALUE, Integer.MIN_VALUE}) {
-                Expect.refused("table " + table + when, house, type, () -> house.order(table, 1, 60, 1));
+                Expect.thrown("table " + table + when, type, () -> house.order(table, 1, 60, 1));
             }
             for (int cups : new int[] {0, 7, -1, Integer.MAX_VALUE}) {
-                Expect.refused("cups " + cups + when, house, type, () -> house.order(0, cups, 60, 1));
+                Expect.thrown("cups " + cups + when, type, () -> house.order(0, cups, 60, 1));
             }
             for (int minimum : new int[] {59, 101, -60, Integer.MAX_VALUE}) {
-                Expect.refused("minimum " + minimum + when, house, type, () -> house.order(0, 1, minimum, 1));
+                Expect.thrown("minimum " + minimum + when, type, () -> house.order(0, 1, minimum, 1));
             }
             for (int priority : new int[] {0, 10, -1, Integer.MAX_VALUE}) {
-                Expect.refused("priority " + priority + when, house, type, () -> house.order(0, 1, 60, priority));
+                Expect.thrown("priority " + priority + when, type, () -> house.order(0, 1, 60, priority));
             }
             if (i == 10) {
-                Expect.refused("an eleventh order", house, IllegalStateException.class,
-                        () -> house.order(0, 1, 60, 1));
+                Expect.thrown("an eleventh order", IllegalStateException.class, () -> house.order(0, 1, 60, 1));
             } else {
                 Expect.same("a refused order takes no number", house.order(0, 1, 60, 1), i);
             }
@@ -81,8 +80,7 @@ public final class OrderTest {
         house.cancel(1);
         expectQueue(house, "without the cancelled", 2, 0, 3, 6, 5);
         for (int position : new int[] {-1, 5, 9, 10, Integer.MIN_VALUE, Integer.MAX_VALUE}) {
-            Expect.refused("orderAt(" + position + ")", house, NoSuchElementException.class,
-                    () -> house.orderAt(position));
+            Expect.thrown("orderAt(" + position + ")", NoSuchElementException.class, () -> house.orderAt(position));
         }
     }
 
@@ -103,7 +101,7 @@ public final class OrderTest {
         expectQueue(house, "ten orders", 8, 7, 6, 5, 4, 3, 2, 1, 0, 9);
         Expect.same("the order at table 9", Words.order(house, 9), "#9 t9 4x69 p1");
         Expect.same("the order at table 8", Words.order(house, 8), "#8 t8 3x68 p9");
-        Expect.refused("an eleventh order", house, IllegalStateException.class, () -> house.order(0, 1, 60, 9));
+        Expect.thrown("an eleventh order", IllegalStateException.class, () -> house.order(0, 1, 60, 9));
         house.cancel(8);
         Expect.same("a place is free again", house.order(3, 2, 70, 9), 10);
         expectQueue(house, "ten orders again", 10, 7, 6, 5, 4, 3, 2, 1, 0, 9);
@@ -115,7 +113,7 @@ public final class OrderTest {
         house.order(0, 2, 60, 1);
         house.order(0, 3, 60, 1);
         Expect.same("two still wait", house.cancel(1), 2);
-        Expect.refused("cancel again", house, NoSuchElementException.class, () -> house.cancel(1));
+        Expect.thrown("cancel again", NoSuchElementException.class, () -> house.cancel(1));
         Expect.same("one still waits", house.cancel(0), 1);
         Expect.same("cups of the one", house.cupsOf(2), 3);
         Expect.same("none waits", house.cancel(2), 0);
@@ -130,14 +128,13 @@ public final class OrderTest {
         house.cancel(0);
         Class<NoSuchElementException> type = NoSuchElementException.class;
         for (int order : new int[] {-1, 0, 2, Integer.MIN_VALUE, Integer.MAX_VALUE}) {
-            Expect.refused("cancel(" + order + ")", house, type, () -> house.cancel(order));
-            Expect.refused("positionOf(" + order + ")", house, type, () -> house.positionOf(order));
-            Expect.refused("cupsOf(" + order + ")", house, type, () -> house.cupsOf(order));
-            Expect.refused("priceOf(" + order + ")", house, type, () -> house.priceOf(order));
-            Expect.refused("kettleFor(" + order + ")", house, type, () -> house.kettleFor(order));
-            Expect.refused("minutesUntilSuitable(" + order + ")", house, type,
-                    () -> house.minutesUntilSuitable(order));
-            Expect.refused("formatOrder(" + order + ")", house, type, () -> house.formatOrder(order));
+            Expect.thrown("cancel(" + order + ")", type, () -> house.cancel(order));
+            Expect.thrown("positionOf(" + order + ")", type, () -> house.positionOf(order));
+            Expect.thrown("cupsOf(" + order + ")", type, () -> house.cupsOf(order));
+            Expect.thrown("priceOf(" + order + ")", type, () -> house.priceOf(order));
+            Expect.thrown("kettleFor(" + order + ")", type, () -> house.kettleFor(order));
+            Expect.thrown("minutesUntilSuitable(" + order + ")", type, () -> house.minutesUntilSuitable(order));
+            Expect.thrown("formatOrder(" + order + ")", type, () -> house.formatOrder(order));
         }
     }
 
@@ -153,17 +150,17 @@ public final class OrderTest {
         TeaHouse house = new TeaHouse();
         house.order(0, 2, 60, 1);
         Class<NoSuchElementException> type = NoSuchElementException.class;
-        Expect.refused("no kettle at all", house, type, () -> house.kettleFor(0));
+        Expect.thrown("no kettle at all", type, () -> house.kettleFor(0));
         Words.run(house, "kettle 16;kettle 16;kettle 16;fill 0 2;fill 1 2;fill 2 1");
         Words.run(house, "burner 0 1;burner 1 1;burner 2 5;minutes 39");
-        Expect.refused("59 degrees are too cold", house, type, () -> house.kettleFor(0));
+        Expect.thrown("59 degrees are too cold", type, () -> house.kettleFor(0));
         house.pass(1);
         Expect.same("of equal ones the lowest number", house.kettleFor(0), 0);
         house.setBurner(1, 2);
         house.pass(1);
         Expect.same("the highest temperature", house.kettleFor(0), 1);
         house.order(0, 3, 60, 9);
-        Expect.refused("too little water", house, type, () -> house.kettleFor(1));
+        Expect.thrown("too little water", type, () -> house.kettleFor(1));
         Expect.same("whatever its position is", house.kettleFor(0), 1);
         Expect.no("the first order can't be served", house.canServe());
         house.cancel(1);
@@ -200,13 +197,13 @@ public final class OrderTest {
         TeaHouse house = hotHouse();
         Class<IllegalStateException> type = IllegalStateException.class;
         Expect.no("canServe without orders", house.canServe());
-        Expect.refused("no order waits", house, type, house::serveNext);
+        Expect.thrown("no order waits", type, house::serveNext);
         house.order(0, 1, 100, 1);
         house.pass(1);
         Expect.no("canServe from 99.5 degrees", house.canServe());
-        Expect.refused("no kettle suits", house, type, house::serveNext);
+        Expect.thrown("no kettle suits", type, house::serveNext);
         house.order(0, 1, 60, 1);
-        Expect.refused("only the second could be served", house, type, house::serveNext);
+        Expect.thrown("only the second could be served", type, house::serveNext);
         house.cancel(0);
         Expect.same("now it is the first", house.serveNext(), 1);
     }
@@ -219,7 +216,7 @@ public final class OrderTest {
         house.order(0, 3, 60, 1);
         Expect.yes("a kettle suits", house.kettleFor(3) >= 0);
         Expect.no("canServe with too few cups", house.canServe());
-        Expect.refused("too few cups", house, IllegalStateException.class, house::serveNext);
+        Expect.thrown("too few cups", IllegalStateException.class, house::serveNext);
         Expect.same("wash one", house.wash(1), 3);
         Expect.yes("canServe with three cups", house.canServe());
         house.serveNext();
@@ -230,15 +227,15 @@ public final class OrderTest {
     private static void testWashRefused() {
         TeaHouse house = hotHouse();
         for (int cups : new int[] {0, -1, 21, Integer.MIN_VALUE, Integer.MAX_VALUE}) {
-            Expect.refused("wash(" + cups + ")", house, IllegalArgumentException.class, () -> house.wash(cups));
+            Expect.thrown("wash(" + cups + ")", IllegalArgumentException.class, () -> house.wash(cups));
         }
-        Expect.refused("nothing to wash", house, IllegalStateException.class, () -> house.wash(1));
+        Expect.thrown("nothing to wash", IllegalStateException.class, () -> house.wash(1));
         house.order(0, 4, 60, 1);
         house.serveNext();
-        Expect.refused("five of four", house, IllegalStateException.class, () -> house.wash(5));
-        Expect.refused("twenty of four", house, IllegalStateException.class, () -> house.wash(20));
+        Expect.thrown("five of four", IllegalStateException.class, () -> house.wash(5));
+        Expect.thrown("twenty of four", IllegalStateException.class, () -> house.wash(20));
         Expect.same("three of four", house.wash(3), 19);
-        Expect.refused("two of one", house, IllegalStateException.class, () -> house.wash(2));
+        Expect.thrown("two of one", IllegalStateException.class, () -> house.wash(2));
         Expect.same("the last", house.wash(1), 20);
     }
 
@@ -246,9 +243,9 @@ public final class OrderTest {
         TeaHouse house = new TeaHouse();
         Class<NoSuchElementException> type = NoSuchElementException.class;
         house.order(0, 1, 60, 1);
-        Expect.refused("without kettles", house, type, () -> house.minutesUntilSuitable(0));
+        Expect.thrown("without kettles", type, () -> house.minutesUntilSuitable(0));
         Words.run(house, "kettle 16;kettle 16;fill 0 1;fill 1 16");
-        Expect.refused("without fire", house, type, () -> house.minutesUntilSuitable(0));
+        Expect.thrown("without fire", type, () -> house.minutesUntilSuitable(0));
         house.setBurner(1, 1);
         String before = Portrait.of(house);
         Expect.same("the second kettle", house.minutesUntilSuitable(0), 40);
@@ -264,7 +261,7 @@ public final class OrderTest {
         house.setBurner(1, 0);
         Expect.same("still now", house.minutesUntilSuitable(1), 0);
         house.pass(1);
-        Expect.refused("it only cools down", house, type, () -> house.minutesUntilSuitable(1));
+        Expect.thrown("it only cools down", type, () -> house.minutesUntilSuitable(1));
         testBoilingAwayBeforeSuitable();
     }
 

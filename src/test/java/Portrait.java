@@ -26,6 +26,16 @@ final class Portrait {
         return portrait.text.toString();
     }
 
+    /** Few answers that tell most changes apart, for tests that ask often. */
+    static String inShort(TeaHouse house) {
+        Portrait portrait = new Portrait(house);
+        portrait.paintSums();
+        portrait.add("kettles", house::kettleCount);
+        portrait.add("waiting", house::waitingCount);
+        portrait.add("nights", house::nightCount);
+        return portrait.text.toString();
+    }
+
     private void paint() {
         for (int kettle = 0; kettle < house.kettleCount(); kettle++) {
             paintKettle(kettle);
@@ -36,6 +46,14 @@ final class Portrait {
         for (int night = 0; night < house.nightCount(); night++) {
             text.append(" night ").append(house.nightIncome(night));
         }
+        paintSums();
+        add("total", house::totalIncome);
+        add("sales", house::totalIncomeBySales);
+        add("can serve", house::canServe);
+        add("balanced", house::isBalanced);
+    }
+
+    private void paintSums() {
         add("clean", house::cleanCups);
         add("steam", house::steam);
         add("boiled", house::boiledTotal);
@@ -44,13 +62,9 @@ final class Portrait {
         add("cup", house::cupPrice);
         add("litre", house::steamPrice);
         add("income", house::income);
-        add("total", house::totalIncome);
-        add("sales", house::totalIncomeBySales);
         add("served", house::servedOrders);
         add("heard", house::whistlesHeard);
         add("lost", house::whistlesLost);
-        add("can serve", house::canServe);
-        add("balanced", house::isBalanced);
     }
 
     private void paintKettle(int kettle) {
@@ -72,11 +86,6 @@ final class Portrait {
     }
 
     private void add(String name, Supplier<Object> question) {
-        text.append(' ').append(name).append('=');
-        try {
-            text.append(question.get());
-        } catch (RuntimeException e) {
-            text.append(e.getClass().getSimpleName());
-        }
+        text.append(' ').append(name).append('=').append(Probe.answer(question));
     }
 }

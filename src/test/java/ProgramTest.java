@@ -32,14 +32,14 @@ public final class ProgramTest {
         TeaHouse house = new TeaHouse();
         char[] strange = {(char) 31, (char) 127, (char) 0, '\n', (char) 200, (char) 0xffff, (char) 0x130};
         for (char character : strange) {
-            Expect.refused("character " + (int) character, house, IllegalArgumentException.class,
+            Expect.thrown("character " + (int) character, IllegalArgumentException.class,
                     () -> house.append(character));
         }
         Expect.same("refused characters are not counted", house.append('c'), 1);
         Words.type(house, "x".repeat(59));
-        Expect.refused("a character too many", house, IllegalStateException.class, () -> house.append('x'));
+        Expect.thrown("a character too many", IllegalStateException.class, () -> house.append('x'));
         for (char character : strange) {
-            Expect.refused("character " + (int) character + " too many", house, IllegalArgumentException.class,
+            Expect.thrown("character " + (int) character + " too many", IllegalArgumentException.class,
                     () -> house.append(character));
         }
     }
@@ -266,11 +266,11 @@ public final class ProgramTest {
     private static void testErrorsAreKept() {
         TeaHouse house = new TeaHouse();
         Class<NoSuchElementException> none = NoSuchElementException.class;
-        Expect.refused("no error position", house, none, house::errorPosition);
-        Expect.refused("no failed command", house, none, house::failedCommand);
+        Expect.thrown("no error position", none, house::errorPosition);
+        Expect.thrown("no failed command", none, house::failedCommand);
         Words.run(house, "close");
-        Expect.refused("still no error position", house, none, house::errorPosition);
-        Expect.refused("still no failed command", house, none, house::failedCommand);
+        Expect.thrown("still no error position", none, house::errorPosition);
+        Expect.thrown("still no failed command", none, house::failedCommand);
         Words.type(house, "close!");
         Expect.thrown("malformed", IllegalArgumentException.class, house::run);
         Words.type(house, "close;serve");

@@ -1,3 +1,7 @@
+import java.util.ArrayList;
+import java.util.List;
+import java.util.function.Consumer;
+
 /** Promises 62 to 65: undo, save and restore. */
 public final class UndoTest {
     /** Programs that change every part of what changes can change. */
@@ -22,56 +26,74 @@ public final class UndoTest {
         Expect.end();
     }
 
-    private static void expectOneChange(String what, TeaHouse house, Expect.Call call) {
-        for (int left = house.undoableCount(); left > 0; left--) {
-            house.undo();
+    private static void testEveryMethodIsAChange() {
+        List<Consumer<TeaHouse>> calls = new ArrayList<>();
+        expectOneChange("addKettle", calls, house -> house.addKettle(16));
+        expectOneChange("fill", calls, house -> house.fill(0, 16));
+        expectOneChange("setBurner", calls, house -> house.setBurner(0, 5));
+        expectOneChange("the same setBurner", calls, house -> house.setBurner(0, 5));
+        expectOneChange("order", calls, house -> house.order(1, 2, 60, 3));
+        expectOneChange("another order", calls, house -> house.order(1, 2, 60, 4));
+        expectOneChange("cancel", calls, house -> house.cancel(0));
+        expectOneChange("pass", calls, house -> house.pass(12));
+        expectOneChange("serveNext", calls, house -> house.serveNext());
+        expectOneChange("wash", calls, house -> house.wash(1));
+        expectOneChange("sellSteam", calls, house -> house.sellSteam(1));
+        expectOneChange("setCupPrice", calls, house -> house.setCupPrice(7));
+        expectOneChange("the same setCupPrice", calls, house -> house.setCupPrice(7));
+        expectOneChange("setSteamPrice", calls, house -> house.setSteamPrice(7));
+        expectOneChange("the same setSteamPrice", calls, house -> house.setSteamPrice(7));
+        expectOneChange("setAttendant", calls, house -> house.setAttendant(false));
+        expectOneChange("the same setAttendant", calls, house -> house.setAttendant(false));
+        expectOneChange("closeNight", calls, house -> house.closeNight());
+        expectOneChange("run", calls, house -> Words.run(house, "minutes 3;steam 1;attend 1"));
+        expectOneChange("run without an effect", calls, house -> Words.run(house, "attend 1"));
+    }
+
+    /** The call comes after the earlier ones, on a new tea house, and joins them. */
+    private static void expectOneChange(String what, List<Consumer<TeaHouse>> earlier, Consumer<TeaHouse> call) {
+        TeaHouse house = new TeaHouse();
+        for (Consumer<TeaHouse> made : earlier) {
+            made.accept(house);
         }
+        house.save();
+        house.restore();
         Expect.same("nothing to undo before " + what, house.undoableCount(), 0);
         String before = Portrait.ofState(house);
-        call.make();
+        call.accept(house);
         Expect.same(what + " is a change", house.undoableCount(), 1);
         house.undo();
         Expect.same(what + " undone", Portrait.ofState(house), before);
-        call.make();
-        house.save();
-        house.restore();
+        earlier.add(call);
     }
 
-    private static void testEveryMethodIsAChange() {
+    private static TeaHouse afterSteps(int count) {
         TeaHouse house = new TeaHouse();
-        expectOneChange("addKettle", house, () -> house.addKettle(16));
-        expectOneChange("fill", house, () -> house.fill(0, 16));
-        expectOneChange("setBurner", house, () -> house.setBurner(0, 5));
-        expectOneChange("the same setBurner", house, () -> house.setBurner(0, 5));
-        expectOneChange("order", house, () -> house.order(1, 2, 60, 3));
-        expectOneChange("another order", house, () -> house.order(1, 2, 60, 4));
-        expectOneChange("cancel", house, () -> house.cancel(0));
-        expectOneChange("pass", house, () -> house.pass(12));
-        expectOneChange("serveNext", house, () -> house.serveNext());
-        expectOneChange("wash", house, () -> house.wash(1));
-        expectOneChange("sellSteam", house, () -> house.sellSteam(1));
-        expectOneChange("setCupPrice", house, () -> house.setCupPrice(7));
-        expectOneChange("the same setCupPrice", house, () -> house.setCupPrice(7));
-        expectOneChange("setSteamPrice", house, () -> house.setSteamPrice(7));
-        expectOneChange("the same setSteamPrice", house, () -> house.setSteamPrice(7));
-        expectOneChange("setAttendant", house, () -> house.setAttendant(false));
-        expectOneChange("the same setAttendant", house, () -> house.setAttendant(false));
-        expectOneChange("closeNight", house, () -> house.closeNight());
-        expectOneChange("run", house, () -> Words.run(house, "minutes 3;steam 1;attend 1"));
-        expectOneChange("run without an effect", house, () -> Words.run(house, "attend 1"));
+        for (int i = 0; i < count; i++) {
+            Words.run(house, STEPS[i]);
+        }
+        return house;
     }
 
     private static void testUndoEveryStep() {
-        TeaHouse house = new TeaHouse();
-        String[] before = new String[STEPS.length];
         for (int i = 0; i < STEPS.length; i++) {
-            before[i] = Portrait.ofState(house);
-            Words.run(house, STEPS[i]);
-            Expect.no(STEPS[i] + " has an effect", before[i].equals(Portrait.ofState(house)));
-        }
-        for (int i = STEPS.length - 1; i >= STEPS.length - 8; i--) {
+            String before = Portrait.ofState(afterSteps(i));
+            TeaHouse house = afterSteps(i + 1);
+            Expect.no(STEPS[i] + " has an effect", before.equals(Portrait.ofState(house)));
             house.undo();
-            Expect.same("before '" + STEPS[i] + "'", Portrait.ofState(house), before[i]);
+            Expect.same("before '" + STEPS[i] + "'", Portrait.ofState(house), before);
+        }
+        for (int undone = 1; undone <= 8; undone++) {
+            TeaHouse house = afterSteps(STEPS.length);
+            for (int i = 0; i < undone; i++) {
+                house.undo();
+            }
+            String before = Portrait.ofState(afterSteps(STEPS.length - undone));
+            Expect.same(undone + " steps undone", Portrait.ofState(house), before);
+        }
+        TeaHouse house = afterSteps(STEPS.length);
+        for (int i = 0; i < 8; i++) {
+            house.undo();
         }
         Expect.thrown("the others can't be undone", IllegalStateException.class, house::undo);
         testUndoTheAttendant();
@@ -95,7 +117,7 @@ public final class UndoTest {
             Expect.same("undoable", house.undoableCount(), left);
             Expect.same("cup price", house.cupPrice(), (12 + left) / 8.0);
         }
-        Expect.refused("a ninth undo", house, IllegalStateException.class, house::undo);
+        Expect.thrown("a ninth undo", IllegalStateException.class, house::undo);
     }
 
     private static void testChangesAfterUndo() {
@@ -123,9 +145,9 @@ public final class UndoTest {
 
     private static void testNothingToUndo() {
         TeaHouse house = new TeaHouse();
-        Expect.refused("a new house", house, IllegalStateException.class, house::undo);
+        Expect.thrown("a new house", IllegalStateException.class, house::undo);
         Expect.thrown("a refused call", IllegalArgumentException.class, () -> house.addKettle(1));
-        Expect.refused("a refused call is no change", house, IllegalStateException.class, house::undo);
+        Expect.thrown("a refused call is no change", IllegalStateException.class, house::undo);
     }
 
     private static void testQuestionsAreNoChanges() {
@@ -178,7 +200,7 @@ public final class UndoTest {
         Expect.same("restore", house.restore(), 0);
         Expect.same("kettles", house.kettleCount(), 0);
         Expect.same("nothing can be undone", house.undoableCount(), 0);
-        Expect.refused("undo", house, IllegalStateException.class, house::undo);
+        Expect.thrown("undo", IllegalStateException.class, house::undo);
         house.addKettle(8);
         Expect.same("the new change can be undone", house.undoableCount(), 1);
         Expect.same("restore again", house.restore(), 0);
@@ -194,17 +216,18 @@ public final class UndoTest {
     }
 
     private static void testRestoreEveryStep() {
-        TeaHouse house = new TeaHouse();
-        for (String step : STEPS) {
-            String before = Portrait.ofState(house);
+        for (int i = 0; i < STEPS.length; i++) {
+            TeaHouse house = afterSteps(i);
             house.save();
-            Words.run(house, step);
-            String after = Portrait.ofState(house);
+            Words.run(house, STEPS[i]);
             house.restore();
-            Expect.same("restored before '" + step + "'", Portrait.ofState(house), before);
-            Words.run(house, step);
-            Expect.same("'" + step + "' once more", Portrait.ofState(house), after);
+            Expect.same("restored before '" + STEPS[i] + "'", Portrait.ofState(house),
+                    Portrait.ofState(afterSteps(i)));
+            Words.run(house, STEPS[i]);
+            Expect.same("'" + STEPS[i] + "' once more", Portrait.ofState(house),
+                    Portrait.ofState(afterSteps(i + 1)));
         }
+        TeaHouse house = new TeaHouse();
         house.setAttendant(true);
         house.save();
         house.setAttendant(false);
@@ -224,7 +247,7 @@ public final class UndoTest {
     private static void testNothingToRestore() {
         TeaHouse house = new TeaHouse();
         house.addKettle(8);
-        Expect.refused("no saved copy", house, IllegalStateException.class, house::restore);
+        Expect.thrown("no saved copy", IllegalStateException.class, house::restore);
         Expect.same("the change can still be undone", house.undoableCount(), 1);
     }
 }
