@@ -333,6 +333,9 @@ public final class MoneyEdgeTest {
         house.pass(2);
         Expect.same("one", house.whistlesHeard(), 1);
         Expect.same("none lost", house.whistlesLost(), 0);
+        Words.run(house, "burner 0 0;minutes 1;burner 0 5;minutes 1");
+        Expect.same("two", house.whistlesHeard(), 2);
+        house.undo();
         house.undo();
         Expect.same("undone", house.whistlesHeard(), 0);
     }
@@ -345,6 +348,9 @@ public final class MoneyEdgeTest {
         house.pass(2);
         Expect.same("one", house.whistlesLost(), 1);
         Expect.same("none heard", house.whistlesHeard(), 0);
+        Words.run(house, "burner 0 0;minutes 1;burner 0 5;minutes 1");
+        Expect.same("two", house.whistlesLost(), 2);
+        house.undo();
         house.undo();
         Expect.same("undone", house.whistlesLost(), 0);
     }

@@ -193,6 +193,9 @@ public final class ProgramEdgeTest {
         expectMalformed(TEN_COMMANDS + ";", 60);
         expectMalformed(TEN_COMMANDS.substring(0, 53) + ";order ", 60);
         expectMalformed(TEN_COMMANDS.substring(0, 53) + ";order!", 59);
+        expectMalformed(TEN_COMMANDS.substring(0, 53) + ";minute", 60);
+        expectMalformed(TEN_COMMANDS.substring(0, 53) + ";kettle", 60);
+        expectMalformed(TEN_COMMANDS.substring(0, 53) + ";burner", 60);
     }
 
     /** Terms: Keywords are matched letter by letter. */
@@ -310,7 +313,24 @@ public final class ProgramEdgeTest {
         Expect.thrown("nothing to run", MALFORMED, empty::run);
         Expect.same("after an empty program", empty.append('c'), 1);
         Words.type(empty, "lose");
-        Expect.same("nothing of an earlier program is left", empty.run(), 1);
+        Expect.same("the new program alone", empty.run(), 1);
+        // Each earlier program would make the later one longer, if its characters were still read.
+        expectEndAfter("kettle 4", "kettle");
+        expectEndAfter("close;close", "c");
+        expectEndAfter("close;close", "close;");
+        expectEndAfter("cup 10", "cup ");
+        expectEndAfter("fill 0 1", "fill 0");
+        TeaHouse shorter = Houses.after("cup 10", "cup 9");
+        Expect.same("the digit alone", shorter.cupPrice(), 1.125);
+    }
+
+    private static void expectEndAfter(String earlier, String program) {
+        TeaHouse house = new TeaHouse();
+        Words.type(house, earlier);
+        Probe.answer(house::run);
+        Words.type(house, program);
+        Expect.thrown("'" + program + "' after '" + earlier + "'", MALFORMED, house::run);
+        Expect.same("its end after '" + earlier + "'", house.errorPosition(), program.length());
     }
 
     /** Promise 59: Returns the number of commands. */
