@@ -9,28 +9,24 @@ import java.util.regex.Matcher;
 import java.util.regex.Pattern;
 
 /**
- * Compares the sentences that the edge tests quote with those of the document: each quotation must stand there word by
- * word, and each sentence that names a boundary must be quoted by a test of its own.
+ * Compares the sentences that the tests quote with those of the document: each quotation must stand there word by word,
+ * and each sentence must be quoted by a test of its own, but for those that no answer can show.
  */
 public final class SentencesTest {
     private static final Path DOCUMENT = Path.of("../shared/DOC.md");
     private static final Path TESTS = Path.of("src/test/java");
-    private static final Pattern QUOTATION = Pattern.compile(
-            "/\\*\\*[\\s*]+(What it is|Terms|Promise \\d+): ((?:(?!\\*/).)*?)\\s*\\*/\\s+private static void test",
-            Pattern.DOTALL);
-    /** Words by which a sentence of a promise names a boundary; arguments and exceptions name one in any words. */
-    private static final Pattern BOUNDARY = Pattern.compile("^Promise \\d+: (.*(\\d|first|last|latest|least|most|none"
-            + "|no |No |empty|even|so far|still|never|fewer|greater|stays|start).*|`.*|Throws .*)$");
+    private static final Pattern QUOTATION = Pattern.compile("/\\*\\*[\\s*]+(What it is|Terms|Promise \\d+): "
+            + "((?:(?!\\*/).)*?)\\s*\\*/\\s+private static void test", Pattern.DOTALL);
     /** FaceTest and TermsEdgeTest have tests of the face, which is no sentence. */
     private static final Set<String> OTHER_SECTIONS = Set.of("TeaHouse", "The public face", "Not promised");
-    private static final Set<String> WITHOUT_BOUNDARY = Set.of(
-            "What it is: A tea house with kettles on burners, orders by priority, steam that is collected and sold, and "
-                    + "a ledger of nights.",
+    /** A summary, headings, what is not promised, and the minute counter, which no call shows. */
+    private static final Set<String> WITHOUT_A_TEST = Set.of(
+            "What it is: A tea house with kettles on burners, orders by priority, steam that is collected and sold, "
+                    + "and a ledger of nights.",
             "Terms: Kettles.", "Terms: Orders.", "Terms: Cups.", "Terms: Minutes.", "Terms: Sales.", "Terms: Commands.",
             "Terms: Undo.", "Terms: Errors.",
             "Terms: The class is not thread-safe.",
-            "Terms: The minute counter starts at 0.",
-            "Promise 3: Adds water of 20 degrees to a kettle.");
+            "Terms: The minute counter starts at 0.");
 
     public static void main(String[] args) throws IOException {
         Set<String> sentences = sentences();
@@ -39,17 +35,12 @@ public final class SentencesTest {
             Expect.yes("the document says '" + quotation + "'", sentences.contains(quotation));
         }
         for (String sentence : sentences) {
-            if (namesABoundary(sentence)) {
+            if (!WITHOUT_A_TEST.contains(sentence)) {
                 Expect.yes("a test quotes '" + sentence + "'", quoted.contains(sentence));
             }
         }
         Expect.yes("the document has sentences", sentences.size() > 200);
         Expect.end();
-    }
-
-    private static boolean namesABoundary(String sentence) {
-        boolean isOfAPromise = sentence.startsWith("Promise ");
-        return !WITHOUT_BOUNDARY.contains(sentence) && (!isOfAPromise || BOUNDARY.matcher(sentence).matches());
     }
 
     private static Set<String> sentences() throws IOException {
@@ -69,27 +60,33 @@ public final class SentencesTest {
 
     private static void addSentences(Set<String> sentences, String section, String part) {
         String text = part.replaceAll("\\s+", " ").trim().replaceAll("^- ", "").replaceAll("^`[^`]*\\)[^`]*`: ", "");
-        for (String sentence : text.split("(?<=[.:]) (?=[A-Z])")) {
+        for (String sentence : split(text)) {
             sentences.add(section + ": " + sentence);
         }
     }
 
+    private static String[] split(String text) {
+        return text.split("(?<=[.:]) (?=[A-Z])");
+    }
+
     private static Set<String> quotations() throws IOException {
         Set<String> quoted = new TreeSet<>();
-        for (Path file : edgeTests()) {
+        for (Path file : tests()) {
             Matcher matcher = QUOTATION.matcher(Files.readString(file));
             while (matcher.find()) {
                 String text = matcher.group(2).replaceAll("\n\\s*\\* ", " ").replaceAll("\\s+", " ").trim();
-                String quotation = matcher.group(1) + ": " + text;
-                Expect.yes("'" + quotation + "' is quoted once", quoted.add(quotation));
+                for (String sentence : split(text)) {
+                    String quotation = matcher.group(1) + ": " + sentence;
+                    Expect.yes("'" + quotation + "' is quoted once", quoted.add(quotation));
+                }
             }
         }
         return quoted;
     }
 
-    private static List<Path> edgeTests() throws IOException {
+    private static List<Path> tests() throws IOException {
         List<Path> files = new ArrayList<>();
-        try (var found = Files.newDirectoryStream(TESTS, "*EdgeTest.java")) {
+        try (var found = Files.newDirectoryStream(TESTS, "*Test.java")) {
             found.forEach(files::add);
         }
         return files;
