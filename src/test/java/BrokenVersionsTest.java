@@ -6,15 +6,19 @@ import java.nio.charset.StandardCharsets;
 import java.nio.file.Files;
 import java.nio.file.Path;
 import java.util.Comparator;
+import java.util.HashMap;
+import java.util.Map;
 import java.util.stream.Stream;
 import javax.tools.JavaCompiler;
 import javax.tools.ToolProvider;
 
 /**
- * Promise 53 from its other side. As long as the class keeps its promises, isBalanced answers true, whether it checks
- * anything or not. So this test breaks the class on purpose, once for each check, and isBalanced must find it out.
+ * Breaks the class on purpose, to show what no answer of the unbroken class can show. As long as the class keeps its
+ * promises, isBalanced answers true, whether it checks anything or not: so there is a broken version for each check,
+ * which isBalanced must find out. And where the document wants a number in two ways, breaking one of them must leave
+ * the other as it is.
  */
-public final class BalanceTest {
+public final class BrokenVersionsTest {
     private static final Path SOURCE = Path.of("src/main/java/TeaHouse.java");
     private static final JavaCompiler COMPILER = ToolProvider.getSystemJavaCompiler();
     /**
@@ -29,9 +33,9 @@ public final class BalanceTest {
 
     private final String source;
     private final Path folder;
-    private int versions = 0;
+    private final Map<String, Path> versions = new HashMap<>();
 
-    private BalanceTest(String source, Path folder) {
+    private BrokenVersionsTest(String source, Path folder) {
         this.source = source;
         this.folder = folder;
     }
@@ -39,12 +43,13 @@ public final class BalanceTest {
     public static void main(String[] args) throws Exception {
         Path folder = Files.createTempDirectory("broken-tea-houses");
         try {
-            BalanceTest test = new BalanceTest(Files.readString(SOURCE), folder);
-            Expect.same("the class as it is", test.balanceOf(test.source), "true");
+            BrokenVersionsTest test = new BrokenVersionsTest(Files.readString(SOURCE), folder);
+            Expect.same("isBalanced of the class as it is", test.answer(test.source, "isBalanced"), "true");
             test.breakVolumes();
             test.breakIncomes();
             test.breakOrders();
             test.breakKettles();
+            test.breakOneOfTwoWays();
         } finally {
             delete(folder);
         }
@@ -102,17 +107,46 @@ public final class BalanceTest {
                 missing.replace(";", " + (levels[kettle] == 2 ? 99 : 0);"));
     }
 
-    private void expectFound(String what, String right, String broken) throws Exception {
-        int at = source.indexOf(right);
-        if (at < 0 || source.indexOf(right, at + 1) >= 0) {
-            Expect.yes("'" + right + "' stands in the class once (if the class has changed, this test must follow)",
-                    false);
-            return;
-        }
-        Expect.same(what, balanceOf(source.replace(right, broken)), "false");
+    /** Promises 22 and 23, 44 and 45, 46 and 47. */
+    private void breakOneOfTwoWays() throws Exception {
+        String missing = "int missing = HOTTEST - temperatures[kettle];";
+        expectApart(missing, missing.replace(";", " + 9;"), "minutesUntilBoiling 1", "minutesUntilBoilingByMinutes 1");
+        String heated = "temperatures[kettle] + rise(kettle)";
+        String faster = "(levels[kettle] == 1 && temperatures[kettle] > 150 ? 9 : rise(kettle))";
+        expectApart(heated, heated.replace("rise(kettle)", faster), "minutesUntilBoilingByMinutes 1",
+                "minutesUntilBoiling 1");
+        String sums = "sums[count + 1] = sums[count] + closed;";
+        expectApart(sums, sums.replace("closed", "closed + 9"), "greatestIncomeBySums 2", "greatestIncome 2");
+        String incomes = "incomes[count] = closed;";
+        expectApart(incomes, incomes.replace("closed", "closed + 9"), "greatestIncome 2", "greatestIncomeBySums 2");
+        expectApart(incomes, incomes.replace("closed", "closed + 9"), "totalIncome", "totalIncomeBySales");
+        expectApart("fromCups += price;", "", "totalIncomeBySales", "totalIncome");
+        expectApart("fromSteam += price;", "", "totalIncomeBySales", "totalIncome");
     }
 
-    private String balanceOf(String version) throws Exception {
+    private void expectFound(String what, String right, String broken) throws Exception {
+        if (standsOnce(right)) {
+            Expect.same(what + ": isBalanced", answer(source.replace(right, broken), "isBalanced"), "false");
+        }
+    }
+
+    private void expectApart(String right, String broken, String changed, String kept) throws Exception {
+        if (standsOnce(right)) {
+            String version = source.replace(right, broken);
+            Expect.no("'" + broken + "' changes " + changed, answer(version, changed).equals(answer(source, changed)));
+            Expect.same("'" + broken + "' keeps " + kept, answer(version, kept), answer(source, kept));
+        }
+    }
+
+    private boolean standsOnce(String text) {
+        int at = source.indexOf(text);
+        boolean isOnce = at >= 0 && source.indexOf(text, at + 1) < 0;
+        Expect.yes("'" + text + "' stands in the class once (if the class has changed, this test must follow)", isOnce);
+        return isOnce;
+    }
+
+    /** What a version of the class answers to a call after that life; the call is a name and at most one number. */
+    private String answer(String version, String call) throws Exception {
         Path classes = compiled(version);
         try (URLClassLoader loader = new URLClassLoader(new URL[] {classes.toUri().toURL()}, null)) {
             Class<?> type = loader.loadClass("TeaHouse");
@@ -123,18 +157,25 @@ public final class BalanceTest {
                 }
                 type.getMethod("run").invoke(house);
             }
-            return String.valueOf(type.getMethod("isBalanced").invoke(house));
+            String[] words = call.split(" ");
+            if (words.length == 1) {
+                return String.valueOf(type.getMethod(words[0]).invoke(house));
+            }
+            return String.valueOf(type.getMethod(words[0], int.class).invoke(house, Integer.parseInt(words[1])));
         }
     }
 
     private Path compiled(String version) throws IOException {
-        versions++;
-        Path classes = Files.createDirectory(folder.resolve("version" + versions));
-        Path file = classes.resolve("TeaHouse.java");
-        Files.writeString(file, version);
-        ByteArrayOutputStream messages = new ByteArrayOutputStream();
-        int result = COMPILER.run(null, messages, messages, "-d", classes.toString(), file.toString());
-        Expect.same("compiling: " + messages.toString(StandardCharsets.UTF_8), result, 0);
+        Path classes = versions.get(version);
+        if (classes == null) {
+            classes = Files.createDirectory(folder.resolve("version" + versions.size()));
+            versions.put(version, classes);
+            Path file = classes.resolve("TeaHouse.java");
+            Files.writeString(file, version);
+            ByteArrayOutputStream messages = new ByteArrayOutputStream();
+            int result = COMPILER.run(null, messages, messages, "-d", classes.toString(), file.toString());
+            Expect.same("compiling: " + messages.toString(StandardCharsets.UTF_8), result, 0);
+        }
         return classes;
     }
 
